@@ -11,6 +11,7 @@ public final class FrontTest {
         tickMoves();
         tickEnds();
         whoMeets();
+        aheadOfTheTick();
         shocksGoThrough();
         shocksMerge();
         shockAndContact();
@@ -131,6 +132,19 @@ public final class FrontTest {
         row("at the half, rounded down", x, f(CONTACT, 109, 9, 6));
         x = with(f(CONTACT, 100, 9, 5), f(CONTACT, 100, 10, 6));
         Check.same("less now", x.tick(5), 2);
+    }
+
+    /** They part at 100, where both met; the one that turned at 0 comes back to it by 50. */
+    private static void aheadOfTheTick() {
+        ShockTube x = with(f(SHOCK, 100, 0, 20), f(SHOCK, 150, -50, 20));
+        x.tick(1);
+        row("they meet", x, f(SHOCK, 100, -50, 20), f(SHOCK, 100, 0, 20));
+        x.tick(4);
+        row("turned", x, f(SHOCK, 50, 50, 30), f(SHOCK, 100, 0, 20));
+        x.tick(1);
+        row("they meet again", x, f(SHOCK, 100, 0, 20), f(CONTACT, 100, 5, 10), f(SHOCK, 100, 50, 30));
+        x.tick(1);
+        row("and part", x, f(SHOCK, 100, 0, 20), f(CONTACT, 105, 5, 10), f(SHOCK, 150, 50, 30));
     }
 
     private static void shocksGoThrough() {

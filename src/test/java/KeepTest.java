@@ -6,7 +6,9 @@ public final class KeepTest {
         gasAndIgnitionComeBack();
         shapeComesBack();
         frontsComeBack();
+        frontsComeBackWhole();
         pipeComesBack();
+        cavityComesBack();
         noPipeComesBack();
         slots();
         wrong();
@@ -142,6 +144,38 @@ public final class KeepTest {
         y.front(ShockTube.FLAME, 0, 0, 1);
         y.goBack(0);
         Check.same("no fronts", y.fronts(), 0);
+    }
+
+    private static void frontsComeBackWhole() {
+        ShockTube x = new ShockTube();
+        x.front(ShockTube.SHOCK, 100, 50, 30);
+        x.front(ShockTube.CONTACT, 300, -10, 10);
+        x.front(ShockTube.FLAME, 500, -20, 7);
+        x.keep(0);
+        x.tick(5);
+        Check.same("they have met", x.ofFront(0, 0), ShockTube.CONTACT);
+        x.goBack(0);
+        long[][] want = {{0, 100, 50, 30}, {1, 300, -10, 10}, {2, 500, -20, 7}};
+        for (int i = 0; i < 3; i++) {
+            long[] got = {x.ofFront(i, 0), x.ofFront(i, 1), x.ofFront(i, 2), x.ofFront(i, 3)};
+            Check.row("front " + i, got, want[i]);
+        }
+    }
+
+    private static void cavityComesBack() {
+        ShockTube x = new ShockTube();
+        x.pipe(2, 10, 0, 1, 500, 0);
+        x.reservoir(0);
+        x.flow(2);
+        x.keep(1);
+        x.flow(2);
+        Check.same("less of it", x.node(1, 2), 96);
+        x.goBack(1);
+        Check.same("as kept", x.node(1, 2), 70);
+        x.pipe(1, 1, 0, 1, 0, 0);
+        x.goBack(1);
+        x.flow(2);
+        Check.same("less of it again", x.node(1, 2), 96);
     }
 
     private static void pipeComesBack() {

@@ -12,7 +12,10 @@ public final class PipeTest {
         cavityAtTheValve();
         cavityThatDoesNotBegin();
         cavityBetween();
+        cavityWithWhatGoes();
         flowRefused();
+        headToTheUnit();
+        flowToTheUnit();
         flowWrong();
         node();
         hugeCavity();
@@ -215,6 +218,63 @@ public final class PipeTest {
         node("C is 100: 20 come", x, 1, -100, 0, 20, 0);
         x.flow(1);
         node("20 more come: it collapses", x, 1, 0, 10, 0, 0);
+    }
+
+    /** Between, C is -500 and D -400: 30 go and -40 come; then C is 400 and D -160: 6 go and 50 come. */
+    private static void cavityWithWhatGoes() {
+        ShockTube x = with(2, 10, 0, 1, 500, 0);
+        x.reservoir(0);
+        x.flow(1);
+        node("the valve pulls", x, 2, 50, 45, 0, 500);
+        x.flow(1);
+        node("it opens", x, 1, -100, 30, 70, 500);
+        node("the reservoir", x, 0, 0, -50, 0, 500);
+        x.flow(1);
+        node("it grows", x, 1, -100, 30, 140, 500);
+        node("the reservoir then", x, 0, 0, 40, 0, 500);
+        node("the valve then", x, 2, 20, 18, 0, 500);
+        x.flow(1);
+        node("it becomes less", x, 1, -100, 6, 96, 500);
+        x.pipe(2, 10, 0, 1, 500, 0);
+        node("a new pipe has none", x, 1, 500, 0, 0, 500);
+        x.flow(1);
+        node("and is as told without", x, 1, 500, 0, 0, 500);
+    }
+
+    /** The reservoir's flow is -2238 behind the first tick, so that C is 999490 and its head. */
+    private static void headToTheUnit() {
+        ShockTube x = with(1, 1, 20, 1, 848, 100);
+        x.valve(0);
+        x.reservoir(510);
+        Check.same("1000000", x.flow(2), 2);
+        node("at the most", x, 1, 1000000, 0, 0, 1000000);
+        x = with(1, 1, 20, 1, 849, 100);
+        x.valve(0);
+        x.reservoir(511);
+        Check.same("1000001", x.flow(2), 1);
+        node("it stays", x, 1, -100, 0, 951, 849);
+    }
+
+    private static void flowToTheUnit() {
+        ShockTube x = with(1, 1, 20, 1, 101, 100);
+        x.reservoir(1001);
+        Check.same("C is 200001", x.flow(2), 2);
+        node("100000", x, 1, 100001, 100000, 0, 100001);
+        x = with(1, 1, 20, 1, 102, 100);
+        x.reservoir(1002);
+        Check.same("C is 200002", x.flow(2), 1);
+        x = with(1, 1, 20, 1, 0, 100);
+        x.valve(0);
+        x.reservoir(1190);
+        Check.same("two ticks", x.flow(2), 2);
+        node("closed", x, 1, 101300, 0, 0, 101300);
+        x.reservoir(1299);
+        Check.same("-100001", x.flow(1), 0);
+        node("the reservoir stays", x, 0, 1190, 1290, 0, 1190);
+        x.reservoir(1300);
+        Check.same("-100000", x.flow(1), 1);
+        node("the reservoir", x, 0, 1300, -100000, 0, 1300);
+        node("what comes into a cavity is no flow of a node", x, 1, -100, 0, 330240, 101300);
     }
 
     /** Friction of 20 blows it up: the second tick would need a flow of -180500 at the reservoir. */

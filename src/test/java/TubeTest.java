@@ -11,8 +11,11 @@ public final class TubeTest {
         ignition();
         ignitionEdges();
         stepBetweenWalls();
+        stepAgainstWalls();
+        wallsBehindOpenEnds();
         stepWithOpenEnds();
         stepRefusedBySpeed();
+        stepRefusedToTheUnit();
         stepRefusedByMass();
         stepRefusedByEnergy();
         stepsRefusedInBetween();
@@ -23,6 +26,7 @@ public final class TubeTest {
         came();
         isKept();
         manyAndSteps();
+        moreCallsThanPromised();
         Check.end("TubeTest");
     }
 
@@ -236,6 +240,32 @@ public final class TubeTest {
         Check.row("anew to the right", anewOf(x, 1), 1000, -60, 4749, 0);
     }
 
+    /** s is 1395: the left wall turns 2 times 100 away from it, 106, the right one toward it, 134. */
+    private static void stepAgainstWalls() {
+        ShockTube x = allAlike(1, 1, 1000, 100, 3000);
+        x.step(100, 1);
+        Check.row("to the left", cellOf(x, 0), 990, 86, 2959, 0);
+        Check.row("to the right", cellOf(x, 1), 1010, 86, 3041, 0);
+        Check.row("came", cameOf(x), 0, -28, 0, 0, 0, 0);
+    }
+
+    private static void wallsBehindOpenEnds() {
+        ShockTube x = new ShockTube();
+        x.shape(2, ShockTube.OPEN, ShockTube.OPEN);
+        x.cell(0, 1000, 900, 5000, 400);
+        x.cell(1, 1000, 500, 5000, 400);
+        x.step(100, 2);
+        Check.same("mass came", x.came(0) != 0 ? 1 : 0, 1);
+        x.shape(2, ShockTube.WALL, ShockTube.WALL);
+        x.cell(0, 1000, 900, 5000, 400);
+        x.cell(1, 1000, 500, 5000, 400);
+        x.step(100, 2);
+        Check.same("no mass over walls", x.came(0), 0);
+        Check.same("no energy over walls", x.came(2), 0);
+        Check.same("no fuel over walls", x.came(3), 0);
+        Check.same("all mass is there", x.tube(0, 0) + x.tube(1, 0), 2000);
+    }
+
     private static void stepWithOpenEnds() {
         ShockTube x = new ShockTube();
         x.shape(2, ShockTube.OPEN, ShockTube.OPEN);
@@ -279,6 +309,19 @@ public final class TubeTest {
         Check.same("open: not turned", x.step(400, 1), 1);
         Check.same("a wall to the left: turned to -1", allAlike(1, 0, 3000, 1, 8373).step(400, 1), 0);
         Check.same("a wall to the right: turned to -1", allAlike(0, 1, 3000, 1, 8373).step(400, 1), 0);
+    }
+
+    /** Without pressure s is the speed alone. */
+    private static void stepRefusedToTheUnit() {
+        ShockTube x = allAlike(0, 0, 1000, 500000, 125000000);
+        Check.same("speed", x.tube(0, 5), 500000);
+        Check.same("no sound", x.tube(0, 6), 0);
+        Check.same("500000", x.step(1, 1), 1);
+        Check.same("twice that", x.step(2, 1), 0);
+        x = allAlike(0, 0, 1000, 500001, 125000500);
+        Check.same("500001", x.step(1, 1), 0);
+        x = allAlike(0, 0, 1000, -500001, 125000500);
+        Check.same("500001 to the left", x.step(1, 1), 0);
     }
 
     private static void stepRefusedByMass() {
@@ -457,6 +500,24 @@ public final class TubeTest {
         Check.same("something came", x.came(0) != 0 ? 1 : 0, 1);
         Check.fails("what -1", Check.IAE, () -> x.isKept(-1));
         Check.fails("what 4", Check.IAE, () -> x.isKept(4));
+    }
+
+    /** What they answer is free, but none throws what the document does not tell. */
+    private static void moreCallsThanPromised() {
+        ShockTube x = new ShockTube();
+        for (int i = 0; i < 511; i++) {
+            x.gas(i % 3);
+        }
+        Check.same("anew in the 512th", x.anew(0, 2), 2000);
+        x.shape(8, 1, 1);
+        for (int i = 0; i < 600; i++) {
+            x.cell(i % 8, 900 + i, 0, 3000, 0);
+        }
+        x.keep(0);
+        x.step(1, 1);
+        x.goBack(0);
+        x.anew(7, 0);
+        Check.same("the tube is still the same", x.tube(7, 0), 900 + 599);
     }
 
     private static void manyAndSteps() {
