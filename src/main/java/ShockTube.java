@@ -26,6 +26,7 @@ public final class ShockTube {
     private static final int MOST_REACHES = 20;
     private static final int MOST_RESERVOIR = 2000;
     private static final int SLOTS = 4;
+    private static final long GREATEST_INT = 2147483647L;
 
     /** Of each gas: the pressure is TIMES by PARTS of what is within, and likewise k for the sound. */
     private static final int[] PRESSURE_TIMES = {2, 2, 1};
@@ -281,7 +282,7 @@ public final class ShockTube {
     }
 
     private static int toInt(long value) {
-        return (int) Math.min(value, Integer.MAX_VALUE);
+        return (int) Math.min(value, GREATEST_INT);
     }
 
     /** Both rows are as long as one another, and the lesser length is taken all the same. */

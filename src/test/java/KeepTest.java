@@ -29,37 +29,6 @@ public final class KeepTest {
         return x;
     }
 
-    /** All that can be asked of it, in one row. */
-    private static long[] all(ShockTube x) {
-        long[] row = new long[128];
-        int at = 0;
-        row[at++] = x.many();
-        row[at++] = x.steps();
-        for (int i = 0; i < 6; i++) {
-            row[at++] = x.came(i);
-        }
-        for (int cell = 0; cell < 4; cell++) {
-            for (int what = 0; what < 8; what++) {
-                row[at++] = x.tube(cell, what);
-                row[at++] = what < 4 ? x.anew(cell, what) : x.isKept(what - 4) ? 1 : 0;
-            }
-            row[at++] = x.probe(cell, 0);
-            row[at++] = x.probe(cell, 1);
-        }
-        row[at++] = x.fronts();
-        for (int front = 0; front < Math.min(3, x.fronts()); front++) {
-            for (int what = 0; what < 4; what++) {
-                row[at++] = x.ofFront(front, what);
-            }
-        }
-        for (int node = 0; node < 4; node++) {
-            for (int what = 0; what < 4; what++) {
-                row[at++] = x.node(node, what);
-            }
-        }
-        return row;
-    }
-
     private static void goOn(ShockTube x) {
         x.step(35, 4);
         x.tick(9);
@@ -68,58 +37,58 @@ public final class KeepTest {
 
     private static void tubeComesBack() {
         ShockTube x = begun();
-        long[] before = all(x);
+        long[] before = Shown.all(x);
         x.keep(0);
-        Check.row("keep changes nothing", all(x), before);
+        Check.row("keep changes nothing", Shown.all(x), before);
         goOn(x);
-        long[] behind = all(x);
+        long[] behind = Shown.all(x);
         Check.same("something changed", java.util.Arrays.equals(before, behind) ? 0 : 1, 1);
         x.goBack(0);
-        Check.row("back", all(x), before);
+        Check.row("back", Shown.all(x), before);
     }
 
     private static void storyComesBack() {
         ShockTube x = begun();
         x.keep(2);
         goOn(x);
-        long[] behind = all(x);
+        long[] behind = Shown.all(x);
         x.goBack(2);
         goOn(x);
-        Check.row("it goes on as it would have", all(x), behind);
+        Check.row("it goes on as it would have", Shown.all(x), behind);
         x.goBack(2);
         x.cell(0, 700, 0, 9000, 0);
         goOn(x);
         x.goBack(2);
         goOn(x);
-        Check.row("and once more: it stays kept", all(x), behind);
+        Check.row("and once more: it stays kept", Shown.all(x), behind);
     }
 
     private static void gasAndIgnitionComeBack() {
         ShockTube x = begun();
         x.keep(1);
         goOn(x);
-        long[] behind = all(x);
+        long[] behind = Shown.all(x);
         x.goBack(1);
         x.gas(ShockTube.STEAM);
         x.ignition(0, 99, 99);
         goOn(x);
         x.goBack(1);
         goOn(x);
-        Check.row("the gas and the ignition are back", all(x), behind);
+        Check.row("the gas and the ignition are back", Shown.all(x), behind);
     }
 
     private static void shapeComesBack() {
         ShockTube x = begun();
         x.keep(3);
-        long[] before = all(x);
+        long[] before = Shown.all(x);
         x.shape(32, ShockTube.WALL, ShockTube.OPEN);
         x.step(10, 3);
         x.goBack(3);
-        Check.row("the shape is back", all(x), before);
+        Check.row("the shape is back", Shown.all(x), before);
         goOn(x);
         ShockTube y = begun();
         goOn(y);
-        Check.row("its ends are back", all(x), all(y));
+        Check.row("its ends are back", Shown.all(x), Shown.all(y));
         for (int i = 0; i < 5; i++) {
             x.step(1, 50);
         }
@@ -182,17 +151,17 @@ public final class KeepTest {
         ShockTube x = begun();
         x.reservoir(350);
         x.keep(0);
-        long[] before = all(x);
+        long[] before = Shown.all(x);
         x.pipe(20, 1, 2, 3, 4, 5);
         x.goBack(0);
-        Check.row("the pipe is back", all(x), before);
+        Check.row("the pipe is back", Shown.all(x), before);
         Check.same("its valve", x.valve(30), 30);
         Check.same("its reservoir", x.reservoir(350), 350);
         x.flow(6);
         ShockTube y = begun();
         y.reservoir(350);
         y.flow(6);
-        Check.row("it goes on as it would have", all(x), all(y));
+        Check.row("it goes on as it would have", Shown.all(x), Shown.all(y));
     }
 
     private static void noPipeComesBack() {
@@ -227,13 +196,13 @@ public final class KeepTest {
         ShockTube x = begun();
         x.keep(1);
         goOn(x);
-        long[] behind = all(x);
+        long[] behind = Shown.all(x);
         Check.fails("keep -1", Check.IAE, () -> x.keep(-1));
         Check.fails("keep 4", Check.IAE, () -> x.keep(4));
         Check.fails("goBack -1", Check.IAE, () -> x.goBack(-1));
         Check.fails("goBack 4", Check.IAE, () -> x.goBack(4));
         Check.fails("nothing kept at 0", Check.ISE, () -> x.goBack(0));
         Check.fails("nothing kept at 3", Check.ISE, () -> x.goBack(3));
-        Check.row("nothing changed", all(x), behind);
+        Check.row("nothing changed", Shown.all(x), behind);
     }
 }
